@@ -911,7 +911,10 @@ public final class BallotLoom {
             return points[one] <= points[other];
         }
 
-        /** The fewest ballots that change the winner by first choices, as they go over to another one. */
+        /**
+         * The fewest ballots that change the winner by first choices, as they go over to another one. Third
+         * ones are left aside: none is in the way of the strongest other one, and no weaker one needs fewer.
+         */
         int leastShift(Box box, int district) {
             countFirsts(box, district);
             int wins = mostFirsts(box);
@@ -921,7 +924,7 @@ public final class BallotLoom {
             int least = NONE;
             for (int c = 0; c < box.candidates; c++) {
                 if (box.stands[c] && c != wins) {
-                    int shift = shiftTo(box, wins, c);
+                    int shift = shiftTo(wins, c);
                     least = least == NONE ? shift : Math.min(least, shift);
                 }
             }
@@ -929,16 +932,9 @@ public final class BallotLoom {
         }
 
         /** Each ballot takes from the winner what it gives to the other one, so half of the lead is enough. */
-        private int shiftTo(Box box, int wins, int gains) {
+        private int shiftTo(int wins, int gains) {
             int lead = firsts[wins] - firsts[gains];
-            int shift = gains < wins ? (lead + 1) / 2 : lead / 2 + 1;
-            for (int c = 0; c < box.candidates; c++) {
-                if (box.stands[c] && c != wins && c != gains) {
-                    int behindIt = firsts[c] - firsts[gains];
-                    shift = Math.max(shift, gains < c ? behindIt : behindIt + 1);
-                }
-            }
-            return shift;
+            return gains < wins ? (lead + 1) / 2 : lead / 2 + 1;
         }
     }
 
