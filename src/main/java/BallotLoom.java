@@ -25,7 +25,7 @@ public final class BallotLoom {
 
     private static final long DIGEST_START = 58308;
     private static final int DIGEST_HOUSE = 20;
-    private static final double WORTH_PARTS = 1024.0;
+    private static final int WORTH_PARTS = 1024;
 
     private final Box box = new Box();
     private final Poll poll = new Poll();

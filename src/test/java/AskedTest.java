@@ -162,6 +162,10 @@ final class AskedTest {
         x.withdraw(0);
         CHECKS.due("no row by who is withdrawn", x.pair(0, 2, 1, true), 0);
         CHECKS.due("1 wins then", x.winner(0, 2), 1);
+        BallotLoom tied = alone(4, 4);
+        CHECKS.due("beats, alike both ways", tied.pair(0, 1, 0, false), 4);
+        CHECKS.due("no step then", tied.pair(0, 1, 0, true), 0);
+        CHECKS.due("nor back", tied.pair(0, 0, 1, true), 0);
     }
 
     private static void promise15Winner() {
@@ -381,6 +385,7 @@ final class AskedTest {
         CHECKS.badArgument("ofParty(0, -1)", () -> x.ofParty(0, -1));
         BallotLoom empty = alone(0, 0);
         CHECKS.due("no direct seat without a first", empty.ofParty(0, 2), 0);
+        CHECKS.due("but with one first", alone(0, 1).ofParty(1, 2), 1);
     }
 
     private static void promise19Wasted() {
@@ -426,6 +431,8 @@ final class AskedTest {
         CHECKS.badArgument("share(0, 10, -1)", () -> x.share(0, 10, -1));
         dueShares(alone(0, 0, 0, 0), 60, 0, 0, 0, 0, 0);
         dueShares(alone(0, 0, 0, 0), 60, 2, 0, 0, 0, 0);
+        dueShares(alone(0, 0, 1, 0), 60, 0, 0, 0, 60, 0);
+        dueShares(alone(0, 0, 1, 0), 60, 2, 0, 0, 60, 0);
     }
 
     private static void dueShares(BallotLoom x, int house, int rule, int... due) {

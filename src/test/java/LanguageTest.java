@@ -27,6 +27,8 @@ final class LanguageTest {
         "double gap(int, int)", "int many(int)", "int margin(int)", "int wouldWin(int, int, int)",
         "int lie(int, int)", "long digest()"};
 
+    private static final List<String> CONSTANTS = Arrays.asList("int", "long", "boolean", "char", "String");
+
     /** What the rules leave out, by the sign that it would show. */
     private static final String[] BARRED = {
         "\\bimport\\b", "\\bpackage\\b", "->", "::", "\\bsynchronized\\b", "\\bassert\\b", "\\bfinally\\b",
@@ -70,6 +72,8 @@ final class LanguageTest {
             int is = field.getModifiers();
             if (Modifier.isStatic(is)) {
                 CHECKS.due(field + " is final", Modifier.isFinal(is), true);
+                CHECKS.due(field + " is a constant of a type that rule 5 has",
+                        CONSTANTS.contains(field.getType().getSimpleName()), true);
             } else {
                 fields++;
             }

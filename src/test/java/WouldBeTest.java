@@ -10,6 +10,7 @@ final class WouldBeTest {
         promise27Wrong();
         promise28LieByFirsts();
         promise28LieByPoints();
+        promise28LieOfSeveral();
         promise28Wrong();
         promise29Digest();
         promise29DigestOfAll();
@@ -163,6 +164,22 @@ final class WouldBeTest {
         CHECKS.due("points of 1", x.points(0, 1), 26.0);
         CHECKS.due("1 is better than 0", x.lie(2, 1), 1);
         spoiledLies(x);
+    }
+
+    private static void promise28LieOfSeveral() {
+        BallotLoom x = alone(0, 2, 4, 5);
+        x.cast(0, 321, 2);
+        // 3 wins with 5, behind the list 0, 1, 2; with 1 first 1 has 4, with 2 first 2 has 6.
+        CHECKS.due("the last one of the list", x.lie(3, 0), 2);
+        x.recount(0, 4);
+        CHECKS.due("1 and 2 would win: 1 is farther ahead", x.lie(3, 0), 1);
+        BallotLoom y = alone(4, 0, 1, 0);
+        y.cast(0, 134, 6);
+        y.cast(0, 4213, 4);
+        // The list 2, 0, 1, 3: 1 goes out, 0 with 4 goes out, and 3 has 6 of 11: the last one.
+        CHECKS.due("the last one wins", y.winner(0, 3), 3);
+        // With 0 first it has 8 of 15. With 1 first 2 goes out, then 1 (17 points to 23), and 0 has 8 of 14.
+        CHECKS.due("0 and 1 both make 0 win: 0 comes first", y.lie(3, 3), 0);
     }
 
     private static void spoiledLies(BallotLoom x) {
