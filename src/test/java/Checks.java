@@ -6,11 +6,21 @@ final class Checks {
     }
 
     private final String title;
+    private String at = "";
     private int right;
     private int wrong;
 
     Checks(String title) {
         this.title = title;
+    }
+
+    /** Names the test whose answers come next. */
+    void at(String test) {
+        at = test + ": ";
+    }
+
+    int seen() {
+        return right + wrong;
     }
 
     void due(String call, long got, long want) {
@@ -66,7 +76,7 @@ final class Checks {
             right++;
         } else {
             wrong++;
-            System.out.println(title + ": " + call + " answered " + got + ", due is " + want);
+            System.out.println(title + ": " + at + call + " answered " + got + ", due is " + want);
         }
     }
 
