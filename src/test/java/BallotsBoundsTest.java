@@ -7,7 +7,9 @@ final class BallotsBoundsTest {
         Sentences.test(BallotsBoundsTest.class, CHECKS);
     }
 
-    /** What it is: "An object is used for at most 512 calls after it has been made; what later calls answer is free." */
+    /**
+     * What it is: "An object is used for at most 512 calls after it has been made; what later calls answer is free."
+     */
     private static void the512thCallIsAnsweredYet() {
         BallotLoom x = new BallotLoom();
         for (int k = 1; k <= 511; k++) {
@@ -266,6 +268,11 @@ final class BallotsBoundsTest {
         CHECKS.due("one that is told later does not mend it", late.ofStack(0, 3), 1);
         late.recount(0, 5);
         CHECKS.due("nor does another count", late.ofStack(0, 3), 1);
+        late.district(1);
+        late.move(0, 1);
+        CHECKS.due("nor another district", late.ofStack(0, 3), 1);
+        late.withdraw(0);
+        CHECKS.due("nor one that withdraws", late.ofStack(0, 3), 1);
         CHECKS.due("as it is cast now", late.ofStack(late.cast(0, 2, 1), 3), 0);
         BallotLoom gone = Boxes.without(Boxes.box("00", "1"), 1);
         CHECKS.due("who is withdrawn is a candidate still", gone.ofStack(gone.cast(0, 2, 1), 3), 0);

@@ -111,7 +111,9 @@ final class OneWinnerBoundsTest {
         CHECKS.due("the most that there can be", most.points(0, 0), 60000.0);
     }
 
-    /** Section 2: "or, if it is not in the LIST, COUNT times (m less 1) / 2.0, with m of those that STAND not in it." */
+    /**
+     * Section 2: "or, if it is not in the LIST, COUNT times (m less 1) / 2.0, with m of those that STAND not in it."
+     */
     private static void pointsOfThoseNotInTheList() {
         CHECKS.due("m is 1", three(0, 21, 500).points(0, 2), 0.0);
         CHECKS.due("m is 2", three(0, 1, 1).points(0, 2), 0.5);
@@ -145,7 +147,9 @@ final class OneWinnerBoundsTest {
         CHECKS.due("one ballot less for 0", three(0, 1, 3, 0, 2, 4).winner(0, POINTS), 1);
     }
 
-    /** Section 2: "BEATS of one over another one: COUNTS of LISTS in which the first one is, and the other one is not" */
+    /**
+     * Section 2: "BEATS of one over another one: COUNTS of LISTS in which the first one is, and the other one is not"
+     */
     private static void beatsWhoIsNotInTheList() {
         BallotLoom x = four(0, 1, 500, 0, 21, 3);
         CHECKS.due("in both lists alone", x.pair(0, 0, 2, false), 503);
@@ -349,7 +353,11 @@ final class OneWinnerBoundsTest {
         BallotLoom none = Boxes.box("", "1");
         BallotLoom gone = Boxes.without(Boxes.alone(5, 3), 0, 1);
         BallotLoom one = Boxes.without(Boxes.alone(5, 3), 0);
+        BallotLoom six = Boxes.without(Boxes.full(), 0, 1, 2, 3, 4, 5);
+        BallotLoom last = Boxes.without(Boxes.full(), 0, 1, 2, 3, 4);
         for (int way = 0; way <= 3; way++) {
+            CHECKS.due("all six withdrew, by " + way, six.winner(3, way), -1);
+            CHECKS.due("all but the last one withdrew, by " + way, last.winner(3, way), 5);
             CHECKS.due("no candidate, by " + way, none.winner(0, way), -1);
             CHECKS.due("all withdrew, by " + way, gone.winner(0, way), -1);
             CHECKS.due("one stands, by " + way, one.winner(0, way), 1);

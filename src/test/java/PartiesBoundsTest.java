@@ -129,7 +129,8 @@ final class PartiesBoundsTest {
     private static void ruleZeroDividesByEach() {
         BallotLoom x = Boxes.alone(53, 24, 23);
         // 53, 26.5, 24, 23, 17.7, 13.3, 12, 11.5, 10.6
-        int[][] due = {{1, 0, 0}, {2, 0, 0}, {2, 1, 0}, {2, 1, 1}, {3, 1, 1}, {4, 1, 1}, {4, 2, 1}, {4, 2, 2}, {5, 2, 2}};
+        int[][] due = {
+            {1, 0, 0}, {2, 0, 0}, {2, 1, 0}, {2, 1, 1}, {3, 1, 1}, {4, 1, 1}, {4, 2, 1}, {4, 2, 2}, {5, 2, 2}};
         for (int n = 1; n <= due.length; n++) {
             shares("53, 24, 23", x, n, 0, due[n - 1][0], due[n - 1][1], due[n - 1][2], 0);
         }

@@ -59,9 +59,9 @@ final class RemarksTest {
             String section = between(sections, from, "== " + (k + 1) + ". ");
             place("Section " + k, section.substring(section.indexOf('\n')).replaceAll("(?m)^text$", ""));
         }
-        String promises = between(text, "## Promise 1:", "## Not promised") + "## Promise 30:";
+        String promises = "## Promise 1:" + between(text, "## Promise 1:", "## Not promised") + "## Promise 30:";
         for (int k = 1; k <= 29; k++) {
-            String promise = between("## Promise 1:" + promises, "## Promise " + k + ":", "## Promise " + (k + 1) + ":");
+            String promise = between(promises, "## Promise " + k + ":", "## Promise " + (k + 1) + ":");
             String heading = promise.substring(0, promise.indexOf('\n'));
             // Behind the heading the call is told with its brackets and exceptions, and a colon ends it.
             String body = promise.substring(heading.length());

@@ -98,8 +98,9 @@ final class ToldBoundsTest {
             CHECKS.due("number of district " + k, x.district(seats[k]), k);
             CHECKS.due("districts", x.many(2), k + 1);
             CHECKS.due("its last seat", x.elected(k, seats[k] - 1), seats[k] - 1);
-            CHECKS.due("no seat behind it", seats[k] < 5 ? x.elected(k, seats[k]) : -1, -1);
         }
+        CHECKS.due("no seat behind the only one", x.elected(1, 1), -1);
+        CHECKS.due("no seat behind the fourth", x.elected(2, 4), -1);
     }
 
     /** Promise 4: "Throws IllegalArgumentException if seats is not 1 to 5" */
@@ -288,7 +289,9 @@ final class ToldBoundsTest {
         EDGES.refused(Edges.INDEX, "stack and district", Boxes::some, x -> x.move(4, 2));
     }
 
-    /** Promise 8: "Tells the THRESHOLD.", "percent: the THRESHOLD", "Returns the set of PARTIES that are BARRED then." */
+    /**
+     * Promise 8: "Tells the THRESHOLD.", "percent: the THRESHOLD", "Returns the set of PARTIES that are BARRED then."
+     */
     private static void thresholdReturnsWhoIsBarred() {
         BallotLoom x = Boxes.alone(80, 13, 7);
         CHECKS.due("0", x.threshold(0), 0);

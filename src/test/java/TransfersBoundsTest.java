@@ -166,7 +166,9 @@ final class TransfersBoundsTest {
         elected("no more than seats, level", Boxes.box("012", "4", 0, 3, 2, 0, 2, 2, 0, 1, 1), 1, 2, 0);
     }
 
-    /** Section 3: "WORTH of each LIST that is with it becomes then: the floor of 1024.0 * WORTH * (HELD - QUOTA) / HELD" */
+    /**
+     * Section 3: "WORTH of each LIST that is with it becomes then: the floor of 1024.0 * WORTH * (HELD - QUOTA) / HELD"
+     */
     private static void worthIsRoundedDownToParts() {
         // 7 ballots, quota 4: 1024 * 4 * 3 / 7 is 1755.43, 1024 * 3 * 3 / 7 is 1316.57.
         BallotLoom x = Boxes.box("01", "1", 0, 1, 4, 0, 21, 3);

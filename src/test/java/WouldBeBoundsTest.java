@@ -174,8 +174,48 @@ final class WouldBeBoundsTest {
         CHECKS.due("points of 1", y.points(0, 1), 26.0);
         CHECKS.due("points of 2", y.points(0, 2), 28.0);
         CHECKS.due("with 1, 2, 0 of these 1 has 31, 0 has 28, 2 has 23", y.lie(2, 1), 1);
-        // With 0, 2, 1 it would be 5 points less for 1, and 10 more for 0; with 2, 0, 1 the others were not in order.
-        CHECKS.due("the others behind it in their order", y.wouldWin(2, 132, 1), 1);
+    }
+
+    /** Promise 28: "(the others of the LIST behind it in their order)" */
+    private static void lieLeavesTheOthersInTheirOrder() {
+        // Lists 2 of 1, 0, 2; 3 of 1, 2; 3 of 2, 0, 1; 3 of 0, 1: 2 goes out with 9 points (0 has 11), 0 has 6 of 11.
+        BallotLoom x = Boxes.box("012", "1", 0, 312, 2, 0, 32, 3, 0, 213, 3, 0, 21, 3);
+        CHECKS.due("0 wins by rounds", x.winner(0, 3), 0);
+        // By 2, 1, 0 it is 0 that goes out, with 9 points (1 has 11), and 1 has 6 of 11. By 2, 0, 1 it would be 1
+        // that goes out, with 9 points (0 has 11), and 2 would have 8.
+        CHECKS.due("2 before 1 and 0", x.lie(0, 3), 2);
+        CHECKS.due("2 before 1 and 0: 1 wins", x.wouldWin(0, 123, 3), 1);
+        CHECKS.due("2 before 0 and 1: 2 wins", x.wouldWin(0, 213, 3), 2);
+        // Lists 1 of 2, 1, 0; 4 of 2, 0; 4 of 1, 2; 2 of 0, 1, 2: paths 0 to 2 are 6, back 9; all others are 6.
+        BallotLoom y = Boxes.box("012", "1", 0, 123, 1, 0, 13, 4, 0, 32, 4, 0, 321, 2);
+        CHECKS.due("1 wins by paths", y.winner(0, 2), 1);
+        // By 0, 2, 1 the steps 0 to 1, 1 to 2, 2 to 0 are 7, 6, 8; by 0, 1, 2 they would be 7, 7, 8.
+        CHECKS.due("0 before 2 and 1", y.lie(0, 2), 0);
+        CHECKS.due("0 before 2 and 1: 2 wins", y.wouldWin(0, 231, 2), 2);
+        CHECKS.due("0 before 1 and 2: 1 wins", y.wouldWin(0, 321, 2), 1);
+        // Lists 2, 3, 0, 1 and 1, 2, 3: 1 is level with all, 0 is behind 2 and 3. With 3 first 0 is so still; with 0
+        // first it is level with all.
+        BallotLoom z = Boxes.box("0123", "1", 0, 2143, 1, 0, 432, 1);
+        CHECKS.due("1 wins by paths, the last one", z.winner(0, 2), 1);
+        CHECKS.due("3 before 2, 0, 1 is no better", z.wouldWin(0, 2134, 2), 1);
+        CHECKS.due("0 before 2, 3, 1", z.lie(0, 2), 0);
+    }
+
+    /** Terms: "what would be (nothing is changed)" Nor is it kept for what is asked next. */
+    private static void whatWouldBeIsNotKept() {
+        int[] heap = {0, 1, 9, 1, 2, 3, 1, 3, 4, 1, 21, 2};
+        Edges.Call[] calls = {
+            x -> x.many(0), x -> x.wouldWin(0, 1, 0), x -> x.wouldWin(3, 11, 1), x -> x.wouldWin(3, 3, 2),
+            x -> x.lie(0, 3), x -> x.wouldWin(0, 999999, 3), x -> x.winner(0, 3)};
+        for (int k = 0; k < calls.length; k++) {
+            BallotLoom x = Boxes.box("012", "11", heap);
+            calls[k].on(x);
+            CHECKS.due("lie in the other district after call " + k, x.lie(3, 0), 1);
+            calls[k].on(x);
+            CHECKS.due("wouldWin in the other district after call " + k, x.wouldWin(3, 2, 0), 1);
+            calls[k].on(x);
+            CHECKS.due("who wins after call " + k, x.winner(1, 0), 2);
+        }
     }
 
     /** Promise 28: "; of several the one that is first in its LIST" */
@@ -281,7 +321,8 @@ final class WouldBeBoundsTest {
     private static void digestWrapsAround() {
         BigInteger most = BigInteger.valueOf(Long.MAX_VALUE);
         BigInteger whole = BigInteger.ONE.shiftLeft(64);
-        Boxes.Maker[] boxes = {BallotLoom::new, Boxes::some, Boxes::full, () -> Boxes.alone(5, 3), () -> Boxes.alone(1)};
+        Boxes.Maker[] boxes = {
+            BallotLoom::new, Boxes::some, Boxes::full, () -> Boxes.alone(5, 3), () -> Boxes.alone(1)};
         boolean isBelow = false;
         boolean isAbove = false;
         for (Boxes.Maker box : boxes) {
@@ -311,7 +352,10 @@ final class WouldBeBoundsTest {
             Boxes::some, Boxes::full, () -> Boxes.sealed(Boxes.without(Boxes.full(), 1, 4)),
             () -> Boxes.without(Boxes.some(), 0, 1, 2), () -> Boxes.box("", "12", 0, 1, 3),
             () -> Boxes.box("03", ""), () -> Boxes.box("012", "25", 0, 21, 4, 0, 21, 3, 0, 2, 3, 0, 23, 3),
-            () -> Boxes.alone(4, 3, 0, 2)};
+            () -> Boxes.alone(4, 3, 0, 2), () -> Boxes.alone(52, 25, 23)};
+        BallotLoom rules = Boxes.alone(52, 25, 23);
+        CHECKS.due("11 of 20 by rule 0", rules.coalition(20, 0), 1);
+        CHECKS.due("10 of 20 by rule 2", rules.coalition(20, 2), 3);
         for (int k = 0; k < boxes.length; k++) {
             long d = 58308;
             for (long v : all(boxes[k].make())) {
