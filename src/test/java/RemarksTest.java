@@ -24,7 +24,7 @@ final class RemarksTest {
     private static final Map<String, StringBuilder> PLACES = new LinkedHashMap<>();
     private static final Map<String, String> WORDS = new LinkedHashMap<>();
 
-    /** No bound is named in these: the title's line, what there is in all, and where the calls stand. */
+    /** No bound is named in these: the title's line, what there is in all, and where the calls stand (FaceTest). */
     private static final String[] OVERVIEWS = {
         "(?m)^One heap of ballots, counted in many ways\\.$", "(?m)^Its calls: .*$",
         "(?m)^Ahead of the calls .* the interface says: ---- what is (told|asked)\\.$",
